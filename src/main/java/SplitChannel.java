@@ -25,25 +25,25 @@ public final class SplitChannel {
     private static final int LAW_COUNTERS = 2;
     private static final int LAW_TIME = 3;
 
-    private final Tape tape;
-    private final Plan plan;
-    private final Plan draft;
     private final Reader reader;
-    private final Acts acts;
+    private final Tape tape;
+    private final Plan draft;
     private final Play play;
+    private final Plan plan;
     private final Course now;
     private final Course other;
+    private final Acts acts;
     private final Means means;
 
     public SplitChannel() {
-        tape = new Tape();
-        plan = new Plan();
-        draft = new Plan();
-        reader = new Reader(tape, draft);
-        acts = new Acts(plan);
-        now = new Course();
+        reader = new Reader();
+        tape = reader.tape;
+        draft = reader.draft;
+        play = new Play();
+        plan = play.plan;
+        now = play.course;
         other = new Course();
-        play = new Play(plan, now);
+        acts = new Acts();
         means = new Means();
     }
 
@@ -360,7 +360,7 @@ public final class SplitChannel {
         if (acts.made == 0) {
             return REFUSED;
         }
-        acts.takeBack();
+        acts.takeBack(plan);
         play.run(now, plan.law, NONE, NONE);
         return acts.made;
     }
@@ -371,7 +371,7 @@ public final class SplitChannel {
         }
         int were = acts.made;
         for (int i = 0; i < were; i++) {
-            acts.takeBack();
+            acts.takeBack(plan);
         }
         play.run(now, plan.law, NONE, NONE);
         return were;
@@ -517,14 +517,9 @@ public final class SplitChannel {
         static final int NOISE = 1;
         static final int LAW = 2;
 
-        final Plan plan;
         final int[] kinds = new int[MOST_ACTS];
         final int[] lawsBefore = new int[MOST_ACTS];
         int made;
-
-        Acts(Plan plan) {
-            this.plan = plan;
-        }
 
         void note(int kind, int lawBefore) {
             put(kinds, made, kind);
@@ -532,7 +527,7 @@ public final class SplitChannel {
             made++;
         }
 
-        void takeBack() {
+        void takeBack(Plan plan) {
             if (made == 0) {
                 return;
             }
@@ -563,19 +558,14 @@ public final class SplitChannel {
         /** Above every bound of a number, and far below where an int wraps. */
         static final int HUGE = 1000000;
 
-        final Tape tape;
-        final Plan draft;
+        final Tape tape = new Tape();
+        final Plan draft = new Plan();
         int kind;
         int start;
         int next;
         int value;
         int fault;
         int place = NONE;
-
-        Reader(Tape tape, Plan draft) {
-            this.tape = tape;
-            this.draft = draft;
-        }
 
         boolean read() {
             draft.clear();
@@ -887,10 +877,10 @@ public final class SplitChannel {
 
     /** Plays the plan's slots into a course, by any law, a noise or a sender left out if told. */
     private static final class Play {
-        final Plan plan;
+        final Plan plan = new Plan();
         final Stack groups = new Stack();
         final int[] counters = new int[MOST_SENDERS];
-        Course course;
+        Course course = new Course();
         int law;
         int noNoise;
         int noSender;
@@ -901,11 +891,6 @@ public final class SplitChannel {
         boolean justSplit;
         int skipsInRow;
         boolean epochCounted;
-
-        Play(Plan plan, Course course) {
-            this.plan = plan;
-            this.course = course;
-        }
 
         /** Answers how many are delivered. */
         int run(Course into, int byLaw, int withoutNoise, int withoutSender) {
@@ -992,7 +977,7 @@ public final class SplitChannel {
                 put(course.epochLast, course.epochCount - 1, t);
             }
             int missed = windowed & present;
-            for (int i = 0; i < plan.senders; i++) {
+            for (int i = 0; i < plan.senders && missed >> i != 0; i++) {
                 if ((missed >> i & 1) == 1) {
                     edge = Math.min(edge, plan.moment(i));
                 }
@@ -1001,7 +986,7 @@ public final class SplitChannel {
 
         int within(int who, int from, int to) {
             int inside = 0;
-            for (int i = 0; i < plan.senders; i++) {
+            for (int i = 0; i < plan.senders && who >> i != 0; i++) {
                 int moment = plan.moment(i);
                 if ((who >> i & 1) == 1 && moment >= from && moment < to) {
                     inside |= 1 << i;
@@ -1025,7 +1010,7 @@ public final class SplitChannel {
         /** Those of the senders whose next bit is 0; each has then taken it. */
         int takeBits(int who) {
             int zeros = 0;
-            for (int i = 0; i < plan.senders; i++) {
+            for (int i = 0; i < plan.senders && who >> i != 0; i++) {
                 if ((who >> i & 1) == 1 && nextBit(i) == 0) {
                     zeros |= 1 << i;
                 }
@@ -1047,7 +1032,7 @@ public final class SplitChannel {
             put(course.sent, t, who);
             put(course.heard, t, heard);
             boolean alone = sending == 1 && heard == HEARD_ONE;
-            for (int i = 0; i < plan.senders; i++) {
+            for (int i = 0; i < plan.senders && who >> i != 0; i++) {
                 if ((who >> i & 1) == 1) {
                     put(course.tried, i, at(course.tried, i) + 1);
                     if (alone) {
@@ -1072,14 +1057,14 @@ public final class SplitChannel {
 
         void playByCounters(int t) {
             int who = 0;
-            for (int i = 0; i < plan.senders; i++) {
+            for (int i = 0; i < plan.senders && present >> i != 0; i++) {
                 if ((present >> i & 1) == 1 && at(counters, i) == 0) {
                     who |= 1 << i;
                 }
             }
             int heard = listen(t, who);
             int deepest = NONE;
-            for (int i = 0; i < plan.senders; i++) {
+            for (int i = 0; i < plan.senders && present >> i != 0; i++) {
                 if ((present >> i & 1) == 1) {
                     put(counters, i, counterBehind(i, (who >> i & 1) == 1, heard == HEARD_MANY));
                     deepest = Math.max(deepest, at(counters, i));
