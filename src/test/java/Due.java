@@ -1,9 +1,12 @@
+import java.lang.reflect.Method;
+import java.lang.reflect.Modifier;
 import java.nio.charset.StandardCharsets;
 
-/** What the tests share: comparing answers with those due, and feeding texts. */
+/** What the tests share: comparing answers with those due, running named tests, and telling texts. */
 final class Due {
     private int wrong = 0;
     private int asked = 0;
+    private int named = 0;
 
     void is(String call, long got, long want) {
         asked++;
@@ -24,8 +27,28 @@ final class Due {
         return wrong;
     }
 
+    /** Runs every test of a class, those named after a promise or the terms, and names the ones that fail. */
+    void each(Class<?> tests) {
+        for (Method test : tests.getDeclaredMethods()) {
+            String name = test.getName();
+            if (!Modifier.isStatic(test.getModifiers()) || !name.startsWith("promise") && !name.startsWith("terms")) continue;
+            named++;
+            int before = wrong;
+            int askedBefore = asked;
+            try {
+                test.setAccessible(true);
+                test.invoke(null);
+            } catch (ReflectiveOperationException e) {
+                wrong++;
+                System.out.println(e.getCause() == null ? e : e.getCause());
+            }
+            if (asked == askedBefore) wrong++;
+            if (wrong > before) System.out.println("NOT HELD: " + name);
+        }
+    }
+
     void close() {
-        System.out.println(asked + " answers, " + wrong + " wrong");
+        System.out.println((named > 0 ? named + " tests, " : "") + asked + " answers, " + wrong + " wrong");
         if (wrong != 0 || asked == 0) {
             System.exit(1);
         }
@@ -60,5 +83,49 @@ final class Due {
         SplitChannel x = new SplitChannel();
         tell(x, text);
         return x;
+    }
+
+    // ---- lines of a text
+
+    static String channel(int law, int slots, int skips, int window) {
+        return "channel law " + law + " slots " + slots + " skips " + skips + " window " + window + ";";
+    }
+
+    static String sender(int at, String bits) {
+        return "sender at " + at + " bits " + bits + ";";
+    }
+
+    static String noise(int at, String how) {
+        return "noise at " + at + " as " + how + ";";
+    }
+
+    // ---- rows of answers
+
+    static long[] slots(SplitChannel x, int what, int many) {
+        long[] row = new long[many];
+        for (int t = 0; t < many; t++) row[t] = x.slot(t, what);
+        return row;
+    }
+
+    static long[] answers(SplitChannel x, String question, int many) {
+        long[] row = new long[many];
+        for (int i = 0; i < many; i++) {
+            switch (question) {
+                case "delivered" -> row[i] = x.delivered(i);
+                case "tries" -> row[i] = x.tries(i);
+                case "taken" -> row[i] = x.taken(i);
+                case "order" -> row[i] = x.order(i);
+                case "heard" -> row[i] = x.heard(i);
+                default -> row[i] = x.behind(i);
+            }
+        }
+        return row;
+    }
+
+    /** An answer for each of 0 to many - 1 would be too long to write: the same one for all. */
+    static long[] same(int many, long answer) {
+        long[] row = new long[many];
+        java.util.Arrays.fill(row, answer);
+        return row;
     }
 }

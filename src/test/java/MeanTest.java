@@ -4,7 +4,7 @@ import java.math.BigInteger;
 public final class MeanTest {
     private static final Due DUE = new Due();
 
-    private static final class Fraction {
+    static final class Fraction {
         final BigInteger above;
         final BigInteger below;
 
@@ -60,7 +60,7 @@ public final class MeanTest {
             x.chance(0, 2, 4, 1)}, 1, 8, 0, 1);
     }
 
-    private static Fraction[] means(int law, int most, long a, long b) {
+    static Fraction[] means(int law, int most, long a, long b) {
         Fraction[] mean = new Fraction[most + 1];
         Fraction zero = Fraction.of(a, b);
         Fraction one = Fraction.of(b - a, b);
