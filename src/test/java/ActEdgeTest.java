@@ -239,6 +239,23 @@ public final class ActEdgeTest {
         }
     }
 
+    /** Each act's run is one from the first slot on: bits are taken from the first one on, none twice. */
+    static void promise34BitsFromTheFirstOn() {
+        SplitChannel x = Due.of(HEAD + Due.sender(0, "01") + Due.sender(0, "00"));
+        DUE.row("as told", Due.answers(x, "taken", 2), 2, 2);
+        for (int law = 1; law <= 2; law++) {
+            x.rule(law);
+            DUE.row("law " + law, Due.answers(x, "taken", 2), 2, 2);
+            DUE.row("law " + law, Due.answers(x, "delivered", 2), 3, 2);
+        }
+        x.rule(3);
+        DUE.row("by time none", Due.answers(x, "taken", 2), 0, 0);
+        x.undo();
+        DUE.row("taken back", Due.answers(x, "taken", 2), 2, 2);
+        DUE.row("by another law", new long[] {x.by(0, 0), x.by(1, 0), x.by(0, 0), x.by(1, 0)}, 3, 3, 3, 3);
+        DUE.row("as it was", Due.answers(x, "taken", 2), 2, 2);
+    }
+
     // ---- the noises that stand are heard whatever the act
 
     private static SplitChannel noisy() {

@@ -160,9 +160,19 @@ public final class FeedEdgeTest {
         DUE.row("no acts", new long[] {x.undo(), x.anew(), x.sender(1, 0), x.noise(0, 0), x.slot(1, 0)}, -5, 0, -2, -2, -2);
     }
 
+    /** The one ahead of it stops right behind a split; none is heard in the first slot of the other. */
+    static void promise4NothingGoesOnFromAnother() {
+        for (int law = 1; law <= 3; law += 2) {
+            SplitChannel x = Due.of(Due.channel(law, 1, 9, 1) + Due.noise(0, "many"));
+            DUE.row("split", new long[] {x.slot(0, 3), x.skips(), x.epochs()}, 2, 0, 0);
+            Due.tell(x, Due.channel(law, 3, 9, 1) + Due.sender(1, "0"));
+            DUE.row("another", new long[] {x.slot(0, 3), x.slot(0, 4), x.skips(), x.delivered(0), x.epoch(0, 0)}, 0, 0, 0, 1, 1);
+        }
+    }
+
     static void promise4NoLinesNoChannel() {
         for (String text : new String[] {"", " ", "\n\n"}) {
-            SplitChannel x = Due.of(HEAD + Due.sender(0, "0") + Due.noise(0, "one"));
+            SplitChannel x = Due.of(Due.channel(3, 200, 9, 20) + Due.sender(0, "0") + Due.noise(0, "one"));
             x.add(0, 0, 1);
             DUE.is("lines", Due.tell(x, text), 0);
             DUE.row("counts", counts(x), Due.same(9, 0));
