@@ -1,41 +1,74 @@
+import java.nio.charset.StandardCharsets;
 import java.util.Random;
 
 /** Many calls by chance (of a told seed), each answered by the class and by the model. */
 public final class ModelTest {
     private static final Due DUE = new Due();
+    private static final int RUNS = 12000;
+    /** Behind so many calls of an object its answers are free: no more are asked of one. */
+    private static final int MOST_CALLS = 512;
+    /** What telling a text takes at most: feeds, end, channel and faults. */
+    private static final int TELLING = 40;
+
+    private final SplitChannel x = new SplitChannel();
+    private final Model m = new Model();
+    private final String name;
+    private final Random r;
+    private int calls = 0;
+
+    private ModelTest(int run) {
+        name = "run " + run + " ";
+        r = new Random(20261119L + run);
+    }
 
     public static void main(String[] args) {
-        for (int run = 0; run < 1500 && DUE.wrong() == 0; run++) {
-            Random r = new Random(20261119L + run);
-            SplitChannel x = new SplitChannel();
-            Model m = new Model();
-            String name = "run " + run + " ";
-            for (int i = 0; i < 6; i++) {
-                tell(name, x, m, r);
-                some(name, x, m, r);
-                if (r.nextInt(3) == 0) whole(name, x, m);
-            }
+        for (int run = 0; run < RUNS && DUE.wrong() == 0; run++) {
+            new ModelTest(run).play();
         }
         DUE.close();
     }
 
-    private static void tell(String name, SplitChannel x, Model m, Random r) {
-        String text = text(r);
-        if (r.nextInt(4) == 0) text = spoilt(text, r);
-        byte[] bytes = text.getBytes(java.nio.charset.StandardCharsets.ISO_8859_1);
+    private void play() {
+        while (calls + TELLING <= MOST_CALLS) {
+            tell();
+            boolean busy = r.nextBoolean();
+            for (int i = r.nextInt(150); i > 0 && calls < MOST_CALLS; i--) {
+                if (r.nextInt(busy ? 2 : 9) == 0) {
+                    act();
+                } else if (r.nextInt(3) == 0) {
+                    askOfSlot();
+                } else {
+                    ask();
+                }
+            }
+        }
+        if (calls > MOST_CALLS) DUE.is(name + "calls of one object", calls, MOST_CALLS);
+    }
+
+    private void is(String call, long got, long want) {
+        calls++;
+        DUE.is(got == want ? call : name + call, got, want);
+    }
+
+    // ---- texts
+
+    private void tell() {
+        String text = text();
+        if (r.nextInt(4) == 0) text = spoilt(text);
+        byte[] bytes = text.getBytes(StandardCharsets.ISO_8859_1);
         for (int i = 0; i < bytes.length; i += 20) {
             int[] n = new int[5];
             for (int k = 0; k < 20; k++) {
                 n[k / 4] = n[k / 4] << 8 | (i + k < bytes.length ? bytes[i + k] & 255 : 0);
             }
-            DUE.is(name + "feed", x.feed(n[0], n[1], n[2], n[3], n[4]), m.feed(n[0], n[1], n[2], n[3], n[4]));
+            is("feed", x.feed(n[0], n[1], n[2], n[3], n[4]), m.feed(n[0], n[1], n[2], n[3], n[4]));
         }
-        DUE.is(name + "end", x.end(bytes.length), m.end(bytes.length));
-        DUE.is(name + "channel of " + text, x.channel(), m.channel());
-        for (int i = -1; i < 3; i++) DUE.is(name + "fault(" + i + ") of " + text, x.fault(i), m.fault(i));
+        is("end", x.end(bytes.length), m.end(bytes.length));
+        is("channel of " + text, x.channel(), m.channel());
+        for (int i = -1; i < 3; i++) is("fault(" + i + ") of " + text, x.fault(i), m.fault(i));
     }
 
-    private static String text(Random r) {
+    private String text() {
         StringBuilder t = new StringBuilder();
         if (r.nextInt(30) == 0) return "";
         int slots = r.nextInt(6) == 0 ? 1 + r.nextInt(200) : 1 + r.nextInt(40);
@@ -60,7 +93,7 @@ public final class ModelTest {
         return t.toString();
     }
 
-    private static String spoilt(String text, Random r) {
+    private String spoilt(String text) {
         StringBuilder t = new StringBuilder(text);
         for (int i = 1 + r.nextInt(2); i > 0 && t.length() > 0; i--) {
             int at = r.nextInt(t.length());
@@ -74,50 +107,62 @@ public final class ModelTest {
         return t.toString();
     }
 
-    private static void some(String name, SplitChannel x, Model m, Random r) {
-        for (int i = 0; i < 12; i++) {
-            int a = r.nextInt(14) - 1;
-            int b = r.nextInt(6) - 1;
-            int slot = r.nextInt(60) - 1;
-            int n = r.nextInt(14);
-            int bits = r.nextInt(1 << Math.max(0, r.nextInt(14)));
-            switch (r.nextInt(20)) {
-                case 0, 1, 2, 3 -> DUE.is(name + "add", x.add(slot, bits, n), m.add(slot, bits, n));
-                case 4, 5, 6, 7 -> DUE.is(name + "disturb", x.disturb(slot, b), m.disturb(slot, b));
-                case 8, 9, 10 -> DUE.is(name + "rule", x.rule(b), m.rule(b));
-                case 11, 12 -> DUE.is(name + "undo", x.undo(), m.undo());
-                case 13 -> { if (r.nextInt(4) == 0) DUE.is(name + "anew", x.anew(), m.anew()); }
-                case 14 -> DUE.is(name + "by", x.by(b, a), m.by(b, a));
-                case 15 -> DUE.is(name + "without", x.without(a), m.without(a));
-                case 16 -> DUE.is(name + "worst", x.worst(), m.worst());
-                case 17 -> DUE.is(name + "alone " + a, x.alone(a), m.alone(a));
-                default -> whole(name, x, m);
+    // ---- acts and questions, their arguments now and then beside what there is
+
+    private void act() {
+        int slot = r.nextInt(60) - 1;
+        int few = r.nextInt(6) - 1;
+        switch (r.nextInt(16)) {
+            case 0, 1, 2, 3 -> {
+                int n = r.nextInt(14);
+                int bits = r.nextInt(1 << r.nextInt(14));
+                is("add", x.add(slot, bits, n), m.add(slot, bits, n));
             }
+            case 4, 5, 6, 7 -> is("disturb", x.disturb(slot, few), m.disturb(slot, few));
+            case 8, 9, 10 -> is("rule", x.rule(few), m.rule(few));
+            case 11, 12, 13 -> is("undo", x.undo(), m.undo());
+            case 14 -> { if (r.nextInt(4) == 0) is("anew", x.anew(), m.anew()); }
+            default -> is("count 6", x.count(6), m.count(6));
         }
     }
 
-    private static void whole(String name, SplitChannel x, Model m) {
-        for (int i = -1; i < 10; i++) DUE.is(name + "count " + i, x.count(i), m.count(i));
-        for (int t = -1; t <= Math.min(201, m.count(1)); t++) {
-            for (int i = -1; i < 6; i++) DUE.is(name + "slot " + t + " " + i, x.slot(t, i), m.slot(t, i));
-            for (int i = -1; i < 11; i++) DUE.is(name + "sends " + t + " " + i, x.sends(t, i), m.sends(t, i));
+    private void askOfSlot() {
+        int slot = r.nextInt(m.count(1) + 2) - 1;
+        int what = r.nextInt(7) - 1;
+        int sender = r.nextInt(m.count(4) + 2) - 1;
+        if (r.nextInt(3) > 0) {
+            is("slot " + slot + " " + what, x.slot(slot, what), m.slot(slot, what));
+        } else {
+            is("sends " + slot + " " + sender, x.sends(slot, sender), m.sends(slot, sender));
         }
-        for (int i = -1; i < 12; i++) {
-            for (int k = -1; k < 15; k++) DUE.is(name + "sender " + i + " " + k, x.sender(i, k), m.sender(i, k));
-            for (int k = -1; k < 4; k++) DUE.is(name + "epoch " + i + " " + k, x.epoch(i, k), m.epoch(i, k));
-            for (int k = -1; k < 3; k++) DUE.is(name + "noise " + i + " " + k, x.noise(i, k), m.noise(i, k));
-            DUE.is(name + "delivered " + i, x.delivered(i), m.delivered(i));
-            DUE.is(name + "tries " + i, x.tries(i), m.tries(i));
-            DUE.is(name + "taken " + i, x.taken(i), m.taken(i));
-            DUE.is(name + "order " + i, x.order(i), m.order(i));
-            DUE.is(name + "heard " + i, x.heard(i), m.heard(i));
-            DUE.is(name + "behind " + i, x.behind(i), m.behind(i));
+    }
+
+    private void ask() {
+        int i = r.nextInt(13) - 1;
+        int k = r.nextInt(6) - 1;
+        switch (r.nextInt(22)) {
+            case 0 -> is("count " + i, x.count(i), m.count(i));
+            case 1 -> is("sender " + i, x.sender(i, k * 3), m.sender(i, k * 3));
+            case 2 -> is("sender " + i, x.sender(i, k * 3 + 1), m.sender(i, k * 3 + 1));
+            case 3 -> is("sender " + i, x.sender(i, k * 3 + 2), m.sender(i, k * 3 + 2));
+            case 4 -> is("delivered " + i, x.delivered(i), m.delivered(i));
+            case 5 -> is("tries " + i, x.tries(i), m.tries(i));
+            case 6 -> is("taken " + i, x.taken(i), m.taken(i));
+            case 7 -> is("order " + i, x.order(i), m.order(i));
+            case 8 -> is("heard " + k, x.heard(k), m.heard(k));
+            case 9 -> is("behind " + i, x.behind(i), m.behind(i));
+            case 10 -> is("epoch " + i + " " + k, x.epoch(i, k), m.epoch(i, k));
+            case 11 -> is("noise " + i + " " + k, x.noise(i, k), m.noise(i, k));
+            case 12 -> is("by " + k + " " + i, x.by(k, i / 2), m.by(k, i / 2));
+            case 13 -> is("without " + i, x.without(i), m.without(i));
+            case 14 -> is("alone " + i, x.alone(i), m.alone(i));
+            case 15 -> is("worst", x.worst(), m.worst());
+            case 16 -> is("all", x.all(), m.all());
+            case 17 -> is("done", x.done(), m.done());
+            case 18 -> is("collided", x.collided(), m.collided());
+            case 19 -> is("skips", x.skips(), m.skips());
+            case 20 -> is("deepest", x.deepest(), m.deepest());
+            default -> is("epochs", x.epochs(), m.epochs());
         }
-        DUE.is(name + "all", x.all(), m.all());
-        DUE.is(name + "done", x.done(), m.done());
-        DUE.is(name + "collided", x.collided(), m.collided());
-        DUE.is(name + "skips", x.skips(), m.skips());
-        DUE.is(name + "deepest", x.deepest(), m.deepest());
-        DUE.is(name + "epochs", x.epochs(), m.epochs());
     }
 }
